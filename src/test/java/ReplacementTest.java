@@ -1,0 +1,55 @@
+/** Promise 4 where a line is replaced: which one it is, and what is sent for it. */
+public final class ReplacementTest {
+    private static final String THREE_READ = "code 0 LOAD 2; code 0 LOAD 0; code 0 LOAD 1; step 0; settle; step 0; settle;"
+            + "step 0; settle; line 0 0 = S; line 0 1 = S; line 0 2 = S";
+
+    public static void main(String[] args) {
+        leastLatelyUsed();
+        useAgain();
+        useByOthersDoesNotCount();
+        freedLine();
+        placeStays();
+        noReplacementForAnUpgrade();
+        Script.finish();
+    }
+
+    private static void leastLatelyUsed() {
+        Script.run("the first one used goes first", 2, 3, THREE_READ,
+                "code 0 LOAD 3; step 0 = 3; line 0 2 = SI; line 0 0 = S; line 0 1 = S; line 0 3 = I; settle; step 0 = 2",
+                "line 0 3 = IS; settle; code 0 STORE 2; step 0 = 3; line 0 0 = SI; settle; step 0 = 2; line 0 2 = IM");
+    }
+
+    private static void useAgain() {
+        for (String op : new String[] {"LOAD", "STORE", "SWAP"}) {
+            Script.run("a line used again by " + op, 2, 3, THREE_READ,
+                    "code 0 " + op + " 2; code 0 LOAD 3; step 0; settle; step 0 = 3; line 0 0 = SI; message 0 block = 0");
+            Script.run("a line in M used again by " + op, 2, 2,
+                    "code 0 SET 8; code 0 STORE 3; code 0 STORE 0; code 0 " + op + " 3; code 0 LOAD 1",
+                    "step 0; step 0; settle; step 0; settle; step 0 = 1; step 0 = 3; line 0 0 = MI; line 0 3 = M",
+                    "message 0 kind = PUTM; message 0 block = 0; message 0 word = 8; place 0 = 68");
+        }
+    }
+
+    private static void useByOthersDoesNotCount() {
+        Script.run("a word given away is no use", 2, 2,
+                "code 0 STORE 0; code 0 STORE 1; code 0 LOAD 2; code 1 LOAD 0; step 0; settle; step 0; settle",
+                "step 1; settle; line 0 0 = S; line 0 1 = M; step 0 = 3; line 0 0 = SI; message 0 kind = PUTS");
+    }
+
+    private static void freedLine() {
+        Script.run("a line that was taken away makes room", 2, 1,
+                "code 0 LOAD 0; code 0 LOAD 1; code 1 STORE 0; step 0; settle; step 1; settle; line 0 0 = I",
+                "step 0 = 2; line 0 1 = IS; messages = 1");
+    }
+
+    private static void placeStays() {
+        Script.run("the place stays during a replacement", 2, 1,
+                "code 0 LOAD 0; code 0 SWAP 1; step 0; settle; step 0 = 3; place 0 = 65; line 0 1 = I; performed = 1",
+                "deliver 0 = 1; step 0 = 0; deliver 0 = 0; place 0 = 1; line 0 1 = I; step 0 = 2; line 0 1 = IM");
+    }
+
+    private static void noReplacementForAnUpgrade() {
+        Script.run("a line in S is not replaced to be written", 2, 1,
+                "code 0 LOAD 0; code 0 STORE 0; step 0; settle; step 0 = 2; line 0 0 = SM; message 0 kind = GETM");
+    }
+}
