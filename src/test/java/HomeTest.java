@@ -17,7 +17,8 @@ public final class HomeTest {
         Script.run("GETS in I and S", 4, 1,
                 "code 3 LOAD 1; code 0 LOAD 1; code 2 LOAD 1; step 3; home 1 = 0; deliver 0; home 1 = 257",
                 "step 0; deliver 1 = 2; home 1 = 289; step 2; deliver 2 = 3; home 1 = 417; home 0 = 0; home 2 = 0",
-                "message 0 receiver = 3; message 1 receiver = 0; message 2 receiver = 2; message 2 kind = DATA");
+                "message 0 receiver = 3; message 1 receiver = 0; message 2 receiver = 2; message 2 kind = DATA",
+                "message 0 sender = HOME; message 0 number = 0; message 2 number = 0; message 2 requester = NONE");
         Script.run("GETS in M", 4, 1,
                 "code 2 SET 6; code 2 STORE 3; step 2; step 2; settle; home 3 = 14; code 3 LOAD 3; step 3; deliver 0 = 1",
                 "home 3 = 387; message 0 kind = FWDS; message 0 sender = HOME; message 0 receiver = 2",

@@ -51,11 +51,15 @@ public final class NetworkTest {
     }
 
     private static void behind() {
-        Script.run("a forward behind another", 2, 1,
+        Script.run("a PUTACK behind a FWDM", 2, 1,
                 "code 0 SET 5; code 0 STORE 0; code 0 LOAD 1; code 1 SWAP 0; step 0; step 0; settle; step 0 = 3",
                 "step 1 = 2; deliver 1 = 2; deliver 0 = 2; message 0 kind = FWDM; message 1 kind = PUTACK",
                 "message 0 receiver = 0; message 1 receiver = 0; deliver 1 = BEHIND; messages = 2; place 0 = 66",
                 "line 0 0 = MI; sent = 6; deliver 0 = 2; deliver 0 = 1; line 0 0 = I; place 0 = 2");
+        Script.run("a PUTACK behind a FWDS", 2, 1,
+                "code 0 SET 5; code 0 STORE 0; code 0 LOAD 1; code 1 LOAD 0; step 0; step 0; settle; step 0 = 3",
+                "step 1 = 2; deliver 1 = 2; deliver 0 = 2; message 0 kind = FWDS; message 1 kind = PUTACK",
+                "deliver 1 = BEHIND; messages = 2; line 0 0 = MI; sent = 6; deliver 0 = 3; deliver 0 = 2; line 0 0 = I");
     }
 
     private static void forwardsOfOtherWays() {
