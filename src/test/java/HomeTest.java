@@ -10,6 +10,9 @@ public final class HomeTest {
         putMOfTheOwner();
         putMOfAnother();
         dataWithoutSharers();
+        everySetOfSharers();
+        lastSharerLeaves();
+        noSuchBlock();
         Script.finish();
     }
 
@@ -114,5 +117,51 @@ public final class HomeTest {
                 "code 1 LOAD 0; code 1 LOAD 1; step 1; deliver 1; home 0 = 99; deliver 1 = 3; deliver 0 = 3; home 0 = 67",
                 "deliver 2 = 2; deliver 0 = 1; line 1 0 = S; step 1 = 3; deliver 1 = 2; home 0 = 3; memory 0 = 0",
                 "message 0 kind = DATA; deliver 0 = 1; home 0 = 0; memory 0 = 5; settle; line 1 0 = I; messages = 0");
+    }
+
+    private static void everySetOfSharers() {
+        for (int set = 1; set < 16; set++) {
+            StringBuilder reads = new StringBuilder();
+            for (int c = 0; c < 4; c++) {
+                if ((set >> c & 1) != 0) {
+                    reads.append("code " + c + " LOAD 3; step " + c + "; settle;");
+                }
+            }
+            Script.run("the sharers " + set, 4, 1, reads.toString(), "home 3 = " + (1 + 32 * set) + "; home 0 = 0; home 2 = 0");
+        }
+    }
+
+    private static void lastSharerLeaves() {
+        for (int last = 0; last < 4; last++) {
+            StringBuilder rows = new StringBuilder();
+            for (int c = 0; c < 4; c++) {
+                rows.append("code " + c + " LOAD 0; code " + c + " LOAD 1; step " + c + "; settle;");
+            }
+            int sharers = 15;
+            for (int k = 1; k <= 4; k++) {
+                int c = (last + k) % 4;
+                sharers -= 1 << c;
+                rows.append("step " + c + " = 3; deliver 0 = 1; deliver 0 = 0;");
+                rows.append("home 0 = " + (sharers == 0 ? 0 : 1 + 32 * sharers) + ";");
+            }
+            Script.run("a directory is I when the last sharer has left", 4, 1, rows.toString(),
+                    "step 0 = 2; deliver 0 = 1; home 1 = 33; code 1 STORE 0; go 1 2; step 1 = 2; deliver 1 = 2; home 0 = 10",
+                    "message 1 kind = DATA; message 1 number = 0");
+        }
+    }
+
+    private static void noSuchBlock() {
+        StringBuilder rows = new StringBuilder();
+        for (int b = 0; b < 4; b++) {
+            rows.append("code 0 STORE " + b + ";" + (b == 0 ? "" : "step 0 = 3; settle;") + "step 0 = 2; settle;");
+        }
+        for (int no : Edges.noBlocks()) {
+            Script.run("no such block", 2, 1, "code 0 SET 6; step 0", rows.toString(),
+                    "memory " + no + " = 0; home " + no + " = NONE; memory 0 = 6; memory 2 = 6; memory 3 = 0; home 3 = 6; home 0 = 0");
+        }
+        Script.run("the first and the last block", 4, 1,
+                "code 0 SET LOWEST; code 0 STORE 0; code 3 SET HIGHEST; code 3 STORE 3; step 0; step 0; step 3; step 3; settle",
+                "home 0 = 6; home 3 = 18; code 1 LOAD 0; code 2 LOAD 3; step 1; step 2; settle; home 0 = 97; home 3 = 385",
+                "memory 0 = LOWEST; memory 3 = HIGHEST; memory 1 = 0; memory 2 = 0; home 1 = 0; home 2 = 0");
     }
 }

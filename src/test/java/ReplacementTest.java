@@ -10,6 +10,8 @@ public final class ReplacementTest {
         freedLine();
         placeStays();
         noReplacementForAnUpgrade();
+        whenLLinesAreInUse();
+        everyOrderOfUse();
         Script.finish();
     }
 
@@ -51,5 +53,45 @@ public final class ReplacementTest {
     private static void noReplacementForAnUpgrade() {
         Script.run("a line in S is not replaced to be written", 2, 1,
                 "code 0 LOAD 0; code 0 STORE 0; step 0; settle; step 0 = 2; line 0 0 = SM; message 0 kind = GETM");
+    }
+
+    private static void whenLLinesAreInUse() {
+        for (int lines = 1; lines <= 3; lines++) {
+            for (int inUse = 0; inUse <= lines; inUse++) {
+                for (String op : new String[] {"LOAD", "STORE", "SWAP"}) {
+                    lineThree(lines, inUse, op);
+                }
+            }
+        }
+    }
+
+    /** Core 1 wants block 3 when it has used the first blocks by op. */
+    private static void lineThree(int lines, int inUse, String op) {
+        StringBuilder used = new StringBuilder();
+        for (int b = 0; b < inUse; b++) {
+            used.append("code 1 " + op + " " + b + "; step 1 = 2; settle;");
+        }
+        boolean read = op.equals("LOAD");
+        String full = "step 1 = 3; line 1 3 = I; line 1 0 = " + (read ? "SI" : "MI") + "; messages = 1; message 0 kind = "
+                + (read ? "PUTS" : "PUTM") + "; place 1 = " + (64 + lines) + "; deliver 0 = 1; step 1 = 0; deliver 0 = 0; line 1 0 = I;";
+        String room = "step 1 = 2; line 1 3 = IS; messages = 1; message 0 kind = GETS; settle; line 1 3 = S";
+        Script.run(inUse + " of " + lines + " lines in use by " + op, 2, lines, used.toString(), "code 1 LOAD 3",
+                inUse == lines ? full : "", room);
+    }
+
+    /** Three lines are filled, then used once more in every order: the first of that order is replaced, then the second. */
+    private static void everyOrderOfUse() {
+        for (int order = 0; order < 27; order++) {
+            int[] b = {order / 9, order / 3 % 3, order % 3};
+            if (b[0] == b[1] || b[1] == b[2] || b[0] == b[2]) {
+                continue;
+            }
+            Script.run("lines used in the order " + b[0] + b[1] + b[2], 2, 3, THREE_READ,
+                    "code 0 LOAD " + b[0] + "; code 0 LOAD " + b[1] + "; code 0 LOAD " + b[2] + "; step 0 = 1; step 0 = 1; step 0 = 1",
+                    "code 0 LOAD 3; step 0 = 3; message 0 block = " + b[0] + "; line 0 " + b[0] + " = SI; settle; step 0 = 2; settle",
+                    "code 0 LOAD " + b[0] + "; step 0 = 3; message 0 block = " + b[1] + "; settle; step 0 = 2; settle",
+                    "code 0 LOAD " + b[1] + "; step 0 = 3; message 0 block = " + b[2] + "; settle; step 0 = 2; settle",
+                    "code 0 LOAD " + b[2] + "; step 0 = 3; message 0 block = 3");
+        }
     }
 }

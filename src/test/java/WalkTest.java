@@ -1,24 +1,28 @@
+import java.util.ArrayList;
 import java.util.Arrays;
+import java.util.List;
 
 /**
- * Long walks of calls in a made-up order: every access sees the one memory, a refused call changes
+ * Walks of calls in a made-up order: every access sees the one memory, a refused call changes
  * nothing, only what the document names can happen, and the network always empties in the end.
  */
 public final class WalkTest {
     private static final int LOAD = 0;
     private static final int STORE = 1;
     private static final int SWAP = 5;
+    private static final int HOME = 4;
     /** For each kind from FWDS on the states of a line in which it may come in. */
     private static final String[] COMES_IN = {"4 5 6 7 2 8", "4 5 6 7 2 8", "3 1 6 9", "8 9 10", "3 4 6", "4 6 5 7"};
 
-    private final HomeDirectory object;
     private final int cores;
     private final int lines;
+    private final String title;
     private final int[][] ops;
     private final int[][] xs;
     private final int[] written;
     private final int[] oneMemory = new int[4];
-    private final String title;
+    private final List<Call> done = new ArrayList<>();
+    private Snapshot now;
     private long seed;
     private int accesses = 0;
 
@@ -27,15 +31,15 @@ public final class WalkTest {
         title = "walk " + number;
         cores = 2 + number % 3;
         lines = 1 + number / 3 % 3;
-        object = new HomeDirectory(cores, lines);
         ops = new int[cores][16];
         xs = new int[cores][16];
         written = new int[cores];
+        now = new Snapshot(new Subject(cores, lines));
     }
 
     public static void main(String[] args) {
         for (int number = 0; number < 1500; number++) {
-            new WalkTest(number).walk(number % 10 == 0 ? 3000 : 500);
+            new WalkTest(number).walk(number % 10 == 0 ? 250 : 100);
         }
         anyArguments();
         Script.finish();
@@ -58,7 +62,7 @@ public final class WalkTest {
             if (choice < 9) {
                 step(pick(cores));
             } else if (choice < 18) {
-                deliver(pick(object.messages() + 2) - 1);
+                deliver(pick(now.messages() + 2) - 1);
             } else if (choice < 19) {
                 go(pick(cores), pick(20) - 2);
             } else {
@@ -69,11 +73,26 @@ public final class WalkTest {
         drain();
     }
 
+    /** Every call and every look at all answers is on an object of its own, which saves calls of the 512. */
+    private int call(String name, int... arguments) {
+        Call call = Call.of(name, arguments);
+        Subject subject = Subject.after(cores, lines, done);
+        int answer = subject.answer(call);
+        Snapshot next = new Snapshot(subject);
+        if (call.changesNothing(answer)) {
+            Script.due(title + ": unchanged by " + call, next.isSameAs(now) ? 1 : 0, 1);
+        } else {
+            done.add(call);
+            now = next;
+        }
+        return answer;
+    }
+
     private void write(int core, int blocks) {
         int op = pick(6);
         int x = op == 2 || op == 4 ? pick(9) - 4 : op == 3 ? pick(16) : pick(blocks);
         boolean room = written[core] < 16;
-        Script.due(title + ": code", object.code(core, op, x) ? 1 : 0, room ? 1 : 0);
+        Script.due(title + ": code", call("code", core, op, x), room ? 1 : 0);
         if (room) {
             ops[core][written[core]] = op;
             xs[core][written[core]] = x;
@@ -82,61 +101,55 @@ public final class WalkTest {
     }
 
     private void go(int core, int place) {
-        boolean can = object.place(core) < 32 && place >= 0 && place <= 16;
-        int[] before = everything();
-        Script.due(title + ": go", object.go(core, place) ? 1 : 0, can ? 1 : 0);
+        boolean can = now.place(core) < 32 && place >= 0 && place <= 16;
+        Script.due(title + ": go", call("go", core, place), can ? 1 : 0);
         if (can) {
-            Script.due(title + ": place", object.place(core), place);
-        } else {
-            unchanged(before);
+            Script.due(title + ": place", now.place(core), place);
         }
     }
 
     private void step(int core) {
-        int[] before = everything();
-        int place = object.place(core);
-        int a = object.accumulator(core);
-        int performed = object.performed();
-        int answer = object.step(core);
+        Snapshot before = now;
+        int place = before.place(core);
+        int answer = call("step", core);
         if (answer == 0 || answer == 4) {
             Script.due(title + ": refused step", answer, place >= 32 ? 0 : 4);
-            unchanged(before);
         }
-        if (object.performed() != performed) {
+        if (now.performed() != before.performed()) {
             Script.due(title + ": step that performed", answer, 1);
-            performed(core, place, a);
+            performed(core, place, before.accumulator(core));
         }
     }
 
     private void deliver(int k) {
-        int[] before = everything();
-        int receiver = object.message(k, 2);
-        boolean toCore = receiver >= 0 && receiver < 4;
-        int place = object.place(receiver);
-        int a = object.accumulator(receiver);
-        int performed = object.performed();
-        int kind = object.message(k, 0);
-        int state = object.line(receiver, object.message(k, 3));
-        int answer = object.deliver(k);
+        Snapshot before = now;
+        int answer = call("deliver", k);
         if (answer < 0) {
-            unchanged(before);
             return;
         }
-        Script.due(title + ": deliver", answer, object.messages());
-        if (toCore) {
-            boolean named = Arrays.asList(COMES_IN[kind - 4].split(" ")).contains(Integer.toString(state));
-            Script.due(title + ": kind " + kind + " in state " + state, named ? 1 : 0, 1);
+        Script.due(title + ": deliver", answer, now.messages());
+        int receiver = before.message(k, 2);
+        if (receiver == HOME) {
+            Script.due(title + ": performed by the home", now.performed(), before.performed());
+            return;
         }
-        if (object.performed() != performed) {
-            performed(receiver, place - 32, a);
-            Script.due(title + ": place after waiting", object.place(receiver), place - 32 + 1);
+        comesIn(before.message(k, 0), before.line(receiver, before.message(k, 3)));
+        if (now.performed() != before.performed()) {
+            int place = before.place(receiver) - 32;
+            performed(receiver, place, before.accumulator(receiver));
+            Script.due(title + ": place after waiting", now.place(receiver), place + 1);
         }
+    }
+
+    private void comesIn(int kind, int state) {
+        boolean named = Arrays.asList(COMES_IN[kind - 4].split(" ")).contains(Integer.toString(state));
+        Script.due(title + ": kind " + kind + " in state " + state, named ? 1 : 0, 1);
     }
 
     /** An access by a core that had the place and the word a before it. */
     private void performed(int core, int place, int a) {
         accesses++;
-        Script.due(title + ": performed", object.performed(), accesses);
+        Script.due(title + ": performed", now.performed(), accesses);
         int op = ops[core][place];
         int block = xs[core][place];
         int want = op == STORE ? a : oneMemory[block];
@@ -145,33 +158,33 @@ public final class WalkTest {
         } else {
             Script.due(title + ": an access", op, LOAD);
         }
-        Script.due(title + ": word seen by core " + core, object.accumulator(core), want);
-        Script.due(title + ": word of the line", object.word(core, block), oneMemory[block]);
+        Script.due(title + ": word seen by core " + core, now.accumulator(core), want);
+        Script.due(title + ": word of the line", now.word(core, block), oneMemory[block]);
     }
 
     private void bounds() {
-        Script.due(title + ": few messages", object.messages() <= 20 ? 1 : 0, 1);
+        Script.due(title + ": few messages", now.messages() <= 20 ? 1 : 0, 1);
         for (int c = 0; c < cores; c++) {
             int inUse = 0;
             for (int b = 0; b < 4; b++) {
-                inUse += object.line(c, b) != 0 ? 1 : 0;
+                inUse += now.line(c, b) != 0 ? 1 : 0;
             }
             Script.due(title + ": lines in use", inUse <= lines ? 1 : 0, 1);
         }
     }
 
     private void drain() {
-        for (int turn = 0; turn < 400 && object.messages() > 0; turn++) {
-            for (int k = 0; k < object.messages(); k++) {
+        for (int turn = 0; turn < 400 && now.messages() > 0; turn++) {
+            for (int k = 0; k < now.messages(); k++) {
                 deliver(k);
             }
         }
-        Script.due(title + ": messages in the end", object.messages(), 0);
+        Script.due(title + ": messages in the end", now.messages(), 0);
         for (int b = 0; b < 4; b++) {
             atRest(b);
         }
         for (int c = 0; c < cores; c++) {
-            Script.due(title + ": nobody waits", object.place(c) < 32 ? 1 : 0, 1);
+            Script.due(title + ": nobody waits", now.place(c) < 32 ? 1 : 0, 1);
         }
     }
 
@@ -179,66 +192,33 @@ public final class WalkTest {
         int readers = 0;
         int owner = -1;
         for (int c = 0; c < cores; c++) {
-            int state = object.line(c, block);
+            int state = now.line(c, block);
             readers |= state == 1 ? 1 << c : 0;
             owner = state == 2 ? c : owner;
             Script.due(title + ": state at rest", state <= 2 ? 1 : 0, 1);
-            Script.due(title + ": word at rest", object.word(c, block), state == 0 ? 0 : oneMemory[block]);
+            Script.due(title + ": word at rest", now.word(c, block), state == 0 ? 0 : oneMemory[block]);
         }
         int home = owner >= 0 ? 2 + 4 * (owner + 1) : readers != 0 ? 1 : 0;
-        Script.due(title + ": home at rest", object.home(block), home + 32 * readers);
+        Script.due(title + ": home at rest", now.home(block), home + 32 * readers);
         if (owner < 0) {
-            Script.due(title + ": memory at rest", object.memory(block), oneMemory[block]);
+            Script.due(title + ": memory at rest", now.memory(block), oneMemory[block]);
         }
     }
 
-    private int[] everything() {
-        int[] all = new int[300];
-        int k = 0;
-        all[k++] = object.messages();
-        all[k++] = object.sent();
-        all[k++] = object.performed();
-        for (int c = 0; c < cores; c++) {
-            all[k++] = object.place(c);
-            all[k++] = object.accumulator(c);
-            for (int b = 0; b < 4; b++) {
-                all[k++] = object.line(c, b);
-                all[k++] = object.word(c, b);
-            }
-        }
-        for (int b = 0; b < 4; b++) {
-            all[k++] = object.home(b);
-            all[k++] = object.memory(b);
-        }
-        for (int m = 0; m < object.messages(); m++) {
-            for (int what = 0; what < 7; what++) {
-                all[k++] = object.message(m, what);
-            }
-        }
-        return all;
-    }
-
-    private void unchanged(int[] before) {
-        Script.due(title + ": nothing changed", Arrays.equals(before, everything()) ? 1 : 0, 1);
-    }
-
-    /** Whatever is asked, a call ends without an exception; one that got out would fail the test. */
+    /**
+     * Whatever is asked, and however often, a call ends without an exception; one that got out would
+     * fail the test. What is answered is not looked at, so that there may be more than 512 calls.
+     */
     private static void anyArguments() {
-        WalkTest walk = new WalkTest(7);
         int[] odd = {Integer.MIN_VALUE, -5, -1, 0, 1, 2, 3, 4, 5, 6, 7, 15, 16, 17, 32, Integer.MAX_VALUE};
-        for (int call = 0; call < 200000; call++) {
-            int x = odd[walk.pick(odd.length)];
-            int y = odd[walk.pick(odd.length)];
-            int z = odd[walk.pick(odd.length)];
-            switch (walk.pick(8)) {
-                case 0: walk.object.code(x, y, z); break;
-                case 1: walk.object.go(x, y); break;
-                case 2: walk.object.step(x); break;
-                case 3: walk.object.deliver(x); break;
-                case 4: walk.object.message(x, y); break;
-                case 5: walk.object.line(x, y); walk.object.word(x, y); break;
-                case 6: walk.object.home(x); walk.object.memory(x); break;
-                default: walk.object.accumulator(x); walk.object.place(x); break;
+        String[] names = {"code", "go", "step", "deliver", "messages", "message", "line", "word", "home", "memory",
+            "accumulator", "place", "sent", "performed"};
+        for (int number = 0; number < 60; number++) {
+            WalkTest walk = new WalkTest(number);
+            HomeDirectory object = new HomeDirectory(odd[walk.pick(odd.length)], odd[walk.pick(odd.length)]);
+            for (int call = 0; call < 5000; call++) {
+                String name = names[walk.pick(names.length)];
+                Call.of(name, odd[walk.pick(odd.length)], odd[walk.pick(odd.length)], odd[walk.pick(odd.length)]).on(object);
             }
         }
     }
