@@ -16,6 +16,7 @@ public final class CoreTest {
         forwardsStalled();
         forwardsInMI();
         putAck();
+        onlyAnAccessThatIsWaitedFor();
         Script.finish();
     }
 
@@ -136,5 +137,17 @@ public final class CoreTest {
         Script.run("PUTACK in SI", 2, 1, SHARED_SEVEN,
                 "code 0 LOAD 1; step 0 = 3; message 0 kind = PUTS; line 0 0 = SI; deliver 0 = 1; home 0 = 65; place 0 = 65",
                 "deliver 0 = 0; line 0 0 = I; place 0 = 1; step 0 = 2; line 0 1 = IS; place 0 = 33");
+    }
+
+    private static void onlyAnAccessThatIsWaitedFor() {
+        Script.run("a core that does not wait performs nothing when a message comes in", 2, 1,
+                "code 0 STORE 0; code 0 LOAD 0; code 0 LOAD 0; code 1 LOAD 0; step 0; settle; step 1; deliver 0 = 1",
+                "performed = 1; deliver 0 = 2; line 0 0 = S; performed = 1; place 0 = 1; settle; performed = 2; place 0 = 1");
+        Script.run("a core that waits for another block performs nothing", 2, 2,
+                "code 0 SET 5; code 0 STORE 0; code 0 LOAD 1; step 0; step 0; settle; step 0 = 2; code 1 LOAD 0; step 1",
+                "deliver 1 = 2; message 1 kind = FWDS; deliver 1 = 3; line 0 0 = S; line 0 1 = IS; performed = 1; place 0 = 34",
+                "accumulator 0 = 5; settle; performed = 3; accumulator 0 = 0; accumulator 1 = 5");
+        Script.run("a core that waits for a replacement performs nothing", 2, 1, PUTTING_BACK_FIVE,
+                "performed = 1; settle; performed = 1; line 0 1 = I; place 0 = 2; accumulator 0 = 5");
     }
 }

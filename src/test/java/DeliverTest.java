@@ -1,4 +1,7 @@
-/** Promise 5 where a message is refused: no such message, BEHIND and STALLED; the rows of delivery are in CoreTest and HomeTest. */
+/**
+ * Promise 5 where a message is refused: no such message, BEHIND and STALLED. What a message does
+ * when it is delivered is in CoreTest and HomeTest.
+ */
 public final class DeliverTest {
     /** Core 0, with one line, puts back block 0 with the word 5. */
     private static final String PUTTING_BACK = "code 0 SET 5; code 0 STORE 0; code 0 LOAD 1; step 0; step 0; settle; step 0 = 3;";
@@ -48,6 +51,9 @@ public final class DeliverTest {
                 "code 0 LOAD 0; code 0 LOAD 1; step 0; settle; step 0 = 3; code 1 STORE 0; step 1; deliver 1 = 3; deliver 0 = 3",
                 "message 1 kind = INV; message 2 kind = PUTACK; deliver 2 = BEHIND; line 0 0 = SI; place 0 = 65",
                 "deliver 1 = 3; line 0 0 = II; message 1 kind = PUTACK; deliver 1 = 2; line 0 0 = I; place 0 = 1");
+        Script.run("a forward that is behind keeps its number", 3, 1, PUTTING_BACK, "code 1 SWAP 0; step 1; deliver 1; deliver 0 = 2",
+                "code 2 LOAD 3; step 2; messages = 3; message 1 kind = PUTACK; deliver 1 = BEHIND; message 1 kind = PUTACK",
+                "message 2 kind = GETS; deliver 2 = 3; deliver 1 = BEHIND; deliver 0 = 3; message 0 kind = PUTACK; deliver 0 = 2");
         for (String op : new String[] {"LOAD", "SWAP"}) {
             Script.run("a forward for " + op + " behind INV", 3, 1,
                     "code 0 LOAD 0; code 0 STORE 0; code 1 STORE 0; code 2 " + op + " 0; step 0; settle; step 1; step 0; step 2",

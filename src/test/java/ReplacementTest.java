@@ -7,6 +7,7 @@ public final class ReplacementTest {
         leastLatelyUsed();
         useAgain();
         useByOthersDoesNotCount();
+        refusalsAndQuestionsAreNoUse();
         freedLine();
         placeStays();
         noReplacementForAnUpgrade();
@@ -33,9 +34,27 @@ public final class ReplacementTest {
     }
 
     private static void useByOthersDoesNotCount() {
-        Script.run("a word given away is no use", 2, 2,
-                "code 0 STORE 0; code 0 STORE 1; code 0 LOAD 2; code 1 LOAD 0; step 0; settle; step 0; settle",
-                "step 1; settle; line 0 0 = S; line 0 1 = M; step 0 = 3; line 0 0 = SI; message 0 kind = PUTS");
+        for (int first = 0; first <= 1; first++) {
+            int second = 1 - first;
+            Script.run("a word given away is no use", 2, 2,
+                    "code 0 STORE " + first + "; code 0 STORE " + second + "; code 0 LOAD 2; code 1 LOAD " + first,
+                    "step 0; settle; step 0; settle; step 1; settle; line 0 " + first + " = S; line 0 " + second + " = M",
+                    "step 0 = 3; line 0 " + first + " = SI; message 0 kind = PUTS; message 0 block = " + first);
+        }
+    }
+
+    /** Whichever of the three lines is asked about or stepped at in vain, the first one used is replaced. */
+    private static void refusalsAndQuestionsAreNoUse() {
+        for (int first = 0; first <= 2; first++) {
+            int second = (first + 1) % 3;
+            int third = (first + 2) % 3;
+            String asked = "line 0 " + first + " = S; word 0 " + first + " = 0; home " + first + " = 33; memory " + first + " = 0;";
+            Script.run("refusals and questions are no use", 2, 3,
+                    "code 0 LOAD " + first + "; code 0 LOAD " + second + "; code 0 LOAD " + third + "; code 0 LOAD 3; code 1 STORE 3",
+                    "step 0; settle; step 0; settle", asked, "step 0 = 2; step 0 = 0; go 0 0 = false", asked, "deliver 1 = NONE",
+                    "settle", asked, "go 0 17 = false; code 0 LOAD 4 = false; go 0 16; step 0 = 4; go 0 3; step 0 = 3",
+                    "message 0 block = " + first + "; line 0 " + first + " = SI");
+        }
     }
 
     private static void freedLine() {

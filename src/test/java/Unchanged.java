@@ -3,8 +3,8 @@ import java.util.List;
 
 /**
  * Whether a call leaves an object as it is: all questions are answered alike with it and without it,
- * and so is everything that is done afterwards, which shows what no question tells (the instructions,
- * the missing answers of a line, which line was used least lately).
+ * and so is what each core then does at all its places, which shows what no question tells (the
+ * instructions, the missing answers of a line, which line was used least lately).
  */
 final class Unchanged {
     private final int cores;
