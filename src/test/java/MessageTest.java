@@ -7,6 +7,7 @@ public final class MessageTest {
         puts();
         forwards();
         dataAndAcks();
+        nothingIsLeftOfAnother();
         noSuchMessage();
         noSuchPart();
         numbers();
@@ -55,6 +56,28 @@ public final class MessageTest {
                 has(2, "ACK 0 2 0 0 0 NONE"));
         Script.run("DATA for a GETS has the number 0", 3, 1, Edges.pathTo(1),
                 "code 2 LOAD 0; step 2; deliver 0 = 1", has(0, "DATA HOME 2 0 7 0 NONE"));
+    }
+
+    /** A message has its own parts alone, whatever those were that went before it. */
+    private static void nothingIsLeftOfAnother() {
+        Script.run("behind a DATA with a word and a number", 3, 2, Edges.pathTo(1),
+                "code 2 STORE 0; code 2 LOAD 1; code 2 LOAD 3; step 2; deliver 0; deliver 1; deliver 1", has(0, "DATA HOME 2 0 7 2 NONE"),
+                "deliver 0 = 2; deliver 0; deliver 0 = 0; step 2 = 2", has(0, "GETS 2 HOME 1 0 0 NONE"),
+                "deliver 0 = 1", has(0, "DATA HOME 2 1 0 0 NONE"), "deliver 0 = 0; step 2 = 3",
+                has(0, "PUTM 2 HOME 0 0 0 NONE"), "deliver 0 = 1", has(0, "PUTACK HOME 2 0 0 0 NONE"));
+        for (String op : new String[] {"LOAD", "STORE", "SWAP"}) {
+            Script.run("a request for " + op + " behind a DATA that came in last", 3, 2, Edges.pathTo(1),
+                    "code 2 STORE 0; code 2 " + op + " 1; step 2; deliver 0; deliver 1; deliver 1; deliver 1; deliver 1 = 1",
+                    has(0, "DATA HOME 2 0 7 2 NONE"), "deliver 0 = 0; line 2 0 = M; step 2 = 2",
+                    has(0, (op.equals("LOAD") ? "GETS" : "GETM") + " 2 HOME 1 0 0 NONE"));
+        }
+        Script.run("PUTS behind a PUTM", 3, 1, Edges.pathTo(8), has(0, "PUTM 0 HOME 0 5 0 NONE"),
+                "code 0 LOAD 2; settle; step 0 = 2; settle; step 0 = 3", has(0, "PUTS 0 HOME 1 0 0 NONE"));
+        Script.run("DATA and ACK behind forwards with a requester", 3, 1, Edges.pathTo(2),
+                "code 2 LOAD 0; step 2; deliver 0", has(0, "FWDS HOME 0 0 0 0 2"), "deliver 0 = 2",
+                has(0, "DATA 0 2 0 5 0 NONE"), has(1, "DATA 0 HOME 0 5 0 NONE"), "settle; code 1 STORE 0; step 1; deliver 0 = 3",
+                has(0, "DATA HOME 1 0 5 2 NONE"), has(1, "INV HOME 0 0 0 0 1"), has(2, "INV HOME 2 0 0 0 1"),
+                "deliver 1 = 3; deliver 1 = 3", has(1, "ACK 0 1 0 0 0 NONE"), has(2, "ACK 2 1 0 0 0 NONE"));
     }
 
     private static void noSuchMessage() {

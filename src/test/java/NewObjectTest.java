@@ -1,46 +1,11 @@
-import java.lang.reflect.Constructor;
-import java.lang.reflect.Field;
-import java.lang.reflect.Method;
-import java.lang.reflect.Modifier;
-import java.util.Set;
-import java.util.TreeSet;
-
-/** Promise 1, the constants, the face, and what every question answers about a new object. */
+/** Promise 1, and what every question answers about a new object. */
 public final class NewObjectTest {
     public static void main(String[] args) {
-        constants();
-        face();
         cores();
         lines();
         bothBeyondTheirEnds();
         everythingAtFirst();
         Script.finish();
-    }
-
-    private static void constants() {
-        Script.due("NONE", HomeDirectory.NONE, -1);
-        Script.due("BEHIND", HomeDirectory.BEHIND, -2);
-        Script.due("STALLED", HomeDirectory.STALLED, -3);
-    }
-
-    private static void face() {
-        Set<String> names = new TreeSet<>();
-        for (Method method : HomeDirectory.class.getDeclaredMethods()) {
-            if (!Modifier.isPrivate(method.getModifiers())) {
-                names.add(method.getName());
-            }
-        }
-        Set<String> wanted = new TreeSet<>(Set.of("code", "go", "step", "deliver", "messages", "message", "line",
-                "word", "home", "memory", "accumulator", "place", "sent", "performed"));
-        Script.due("the methods are " + names, names.equals(wanted) ? 1 : 0, 1);
-        int fields = 0;
-        for (Field field : HomeDirectory.class.getDeclaredFields()) {
-            fields += Modifier.isPrivate(field.getModifiers()) ? 0 : 1;
-        }
-        Script.due("fields that are not private", fields, 3);
-        Constructor<?>[] constructors = HomeDirectory.class.getDeclaredConstructors();
-        Script.due("constructors", constructors.length, 1);
-        Script.due("final", Modifier.isFinal(HomeDirectory.class.getModifiers()) ? 1 : 0, 1);
     }
 
     private static void cores() {

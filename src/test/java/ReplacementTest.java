@@ -6,6 +6,7 @@ public final class ReplacementTest {
     public static void main(String[] args) {
         leastLatelyUsed();
         useAgain();
+        noStateGoesFirst();
         useByOthersDoesNotCount();
         refusalsAndQuestionsAreNoUse();
         freedLine();
@@ -30,6 +31,18 @@ public final class ReplacementTest {
                     "code 0 SET 8; code 0 STORE 3; code 0 STORE 0; code 0 " + op + " 3; code 0 LOAD 1",
                     "step 0; step 0; settle; step 0; settle; step 0 = 1; step 0 = 3; line 0 0 = MI; line 0 3 = M",
                     "message 0 kind = PUTM; message 0 block = 0; message 0 word = 8; place 0 = 68");
+        }
+    }
+
+    private static void noStateGoesFirst() {
+        for (int first = 0; first <= 1; first++) {
+            int second = 1 - first;
+            Script.run("an M used before an S", 2, 2,
+                    "code 0 SET 8; code 0 STORE " + first + "; code 0 LOAD " + second + "; code 0 LOAD 3; step 0; step 0; settle; step 0; settle",
+                    "step 0 = 3; line 0 " + first + " = MI; line 0 " + second + " = S; message 0 kind = PUTM; message 0 block = " + first);
+            Script.run("an S used before an M", 2, 2,
+                    "code 0 LOAD " + first + "; code 0 STORE " + second + "; code 0 LOAD 3; step 0; settle; step 0; settle",
+                    "step 0 = 3; line 0 " + first + " = SI; line 0 " + second + " = M; message 0 kind = PUTS; message 0 block = " + first);
         }
     }
 

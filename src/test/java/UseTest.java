@@ -15,6 +15,8 @@ public final class UseTest {
         nothingButAdds();
         aWordThatGoesToAndFro();
         linesReplacedAgainAndAgain();
+        theLeastLatelyUsedBehindManyAccesses();
+        manyMessages();
         nothingButQuestions();
         nothingButRefusals();
         theLastCallIsRefused();
@@ -144,6 +146,71 @@ public final class UseTest {
         run.due(2, "step", 0);
         run.due(1, "deliver", 0);
         run.due(0, "deliver", 0);
+    }
+
+    /** Three lines are used in turn, however often, and then a fourth one is wanted. */
+    private static void theLeastLatelyUsedBehindManyAccesses() {
+        for (int accesses = 3; accesses <= 450; accesses++) {
+            UseTest run = new UseTest("replaced behind " + accesses + " accesses", 2, 3);
+            for (int k = 0; k < 15; k++) {
+                run.due(1, "code", 0, 0, k % 3);
+            }
+            run.due(1, "code", 0, 0, 3);
+            useInTurn(run, accesses);
+            run.due(accesses, "performed");
+            run.due(1, "go", 0, 15);
+            run.due(3, "step", 0);
+            run.due(accesses % 3, "message", 0, 3);
+            run.due(9, "line", 0, accesses % 3);
+        }
+    }
+
+    private static void useInTurn(UseTest run, int accesses) {
+        for (int k = 0; k < accesses; k++) {
+            if (k > 0 && k % 15 == 0) {
+                run.due(1, "go", 0, 0);
+            }
+            if (k < 3) {
+                fetch(run);
+            } else {
+                run.due(1, "step", 0);
+            }
+        }
+    }
+
+    /** Core 3 writes and the others read, so that nearly every call sends or delivers. */
+    private static void manyMessages() {
+        UseTest run = new UseTest("many messages", 4, 1);
+        for (int k = 0; k < 8; k++) {
+            for (int c = 0; c < 4; c++) {
+                run.due(1, "code", c, c == 3 ? 5 : 0, 0);
+            }
+        }
+        int rounds = 0;
+        while (run.left() >= 28) {
+            for (int c = 0; c < 4 && rounds > 0 && rounds % 8 == 0; c++) {
+                run.due(1, "go", c, 0);
+            }
+            run.due(2, "step", 3);
+            run.deliveries(rounds == 0 ? "1 0" : "4 3 3 3 3 2 1 0");
+            run.due(2, "step", 0);
+            run.deliveries("1 2 1 0");
+            run.due(2, "step", 1);
+            run.deliveries("1 0");
+            run.due(2, "step", 2);
+            run.deliveries("1 0");
+            rounds++;
+        }
+        run.due(16 * rounds - 6, "sent");
+        run.due(4 * rounds, "performed");
+        run.due(1 + 32 * 15, "home", 0);
+    }
+
+    /** The first message is delivered as often as answers are due. */
+    private void deliveries(String answers) {
+        for (String answer : answers.split(" ")) {
+            due(Integer.parseInt(answer), "deliver", 0);
+        }
     }
 
     private static void nothingButQuestions() {
